@@ -108,10 +108,12 @@ public final class ColumnTest {
         x.turn(1);
         // 25 stay in 3; 50 + 0 in 4, half of it to 5, and 25 from 3.
         Check.due("25 in 3, 50 in 4, 25 in 5", x.deck(1), 4);
-        x.setVapour(0, 2, 1);
+        x.setVapour(0, 0, 2);
         x.turn(1);
-        Check.due("one grain falls whole", x.getIce(0, 2), 0);
-        Check.due("deck of one grain", x.deck(2), 1);
+        Check.due("the top itself", x.deck(0), 0);
+        x.turn(1);
+        Check.due("one grain falls whole", x.getIce(0, 0), 0);
+        Check.due("both are in 1", x.deck(0), 1);
     }
 
     private static void core() {

@@ -136,6 +136,8 @@ public final class FrameTest {
         Check.due("1801 back is 1799 onwards", driftBy(0, -1801), 1799.0f);
         Check.due("1799 onwards from 3000", driftBy(3000, 1799), 1799.0f);
         Check.due("1800 onwards from 3000", driftBy(3000, 1800), -1800.0f);
+        Check.due("to the longitude 0", driftBy(3000, 600), 600.0f);
+        Check.due("back to the longitude 0", driftBy(7, -7), -7.0f);
         Check.due("1800 back from 3000", driftBy(3000, -1800), -1800.0f);
     }
 

@@ -16,8 +16,13 @@ public final class WildCallsTest {
         Integer.MIN_VALUE, Integer.MIN_VALUE + 1, -3001, -1, 0, 1, 3001, 3600, 20001, Integer.MAX_VALUE - 1,
         Integer.MAX_VALUE,
     };
-    // How often a method is called beside once: those that make things, and turns.
-    private static final String OFTEN = "turn turn turn tick tick setTurning stir setTemperature setVapour load";
+    // Called more often than others: what lets things happen, and what tells of them.
+    private static final String OFTEN = "turn turn turn turn tick tick tick setTurning stir stir setTemperature"
+            + " setVapour addStorm addStorm nameStorm nameStorm livesIn getSize drift drift drift placeIn sentAt sentAt"
+            + " burst findName";
+    // Put off nine times of ten: what would use up the room too early, or end what has begun.
+    private static final List<String> SELDOM = List.of("load", "save", "frame", "dropProbe", "strike", "setDrag",
+            "setCore", "pressure", "getTurning", "getShear", "getWind", "meanWind", "happening", "happenedTo");
 
     public static void main(String[] args) {
         List<Method> methods = new ArrayList<>();
@@ -46,6 +51,9 @@ public final class WildCallsTest {
         boolean isWild = run % 5 == 0;
         for (int call = 0; call < CALLS; call++) {
             Method method = methods.get(random.nextInt(methods.size()));
+            if (SELDOM.contains(method.getName()) && random.nextInt(10) != 0) {
+                method = methods.get(random.nextInt(methods.size()));
+            }
             Object[] values = new Object[method.getParameterCount()];
             for (int i = 0; i < values.length; i++) {
                 Class<?> type = method.getParameterTypes()[i];
@@ -86,6 +94,10 @@ public final class WildCallsTest {
                 return isCrowded ? 4 + random.nextInt(2) : random.nextInt(13);
             case "addStorm1": case "burst1": case "strike1": case "frame0":
                 return isCrowded ? random.nextInt(900) : random.nextInt(3601);
+            case "stir0":
+                return random.nextInt(12);
+            case "stir1":
+                return random.nextInt(4) == 0 ? random.nextInt(12) : 4 + random.nextInt(3);
             case "addStorm2":
                 return 9 + random.nextInt(random.nextBoolean() ? 393 : 20);
             case "strike2":
@@ -93,17 +105,19 @@ public final class WildCallsTest {
             case "turn0":
                 return random.nextInt(random.nextInt(12) == 0 ? 202 : 4);
             case "dropProbe0": case "dropProbe1": case "dropProbe2":
-                return random.nextInt(random.nextInt(3) == 0 ? 62 : 4);
+                return random.nextInt(random.nextInt(3) == 0 && place == 1 ? 62 : 4);
             case "sentAt1":
-                return random.nextInt(20) - 1;
+                return random.nextInt(random.nextInt(3) == 0 ? 20 : 4) - random.nextInt(2);
             case "happening0": case "happenedTo0":
                 return random.nextInt(33) - 1;
-            case "load0": case "tick0": case "sent0": case "lost0": case "sentAt0":
-                return random.nextInt(5) - random.nextInt(2);
+            case "load0":
+                return random.nextInt(4);
+            case "tick0": case "sent0": case "lost0": case "sentAt0":
+                return random.nextInt(random.nextInt(3) == 0 ? 5 : 2) - random.nextInt(2);
             case "countSeen0": case "placeIn0": case "drift1": case "drift2":
-                return random.nextInt(7) - random.nextInt(2);
+                return random.nextInt(random.nextInt(10) == 0 ? 7 : 4);
             default:
-                return random.nextInt(13) - random.nextInt(2);
+                return random.nextInt(random.nextBoolean() ? 13 : 4);
         }
     }
 
@@ -111,7 +125,7 @@ public final class WildCallsTest {
         if (name.equals("sentAt")) {
             return "ltiltix".charAt(random.nextInt(7));
         }
-        return random.nextInt(12) == 0 ? (char) random.nextInt(65536) : (char) ('A' + random.nextInt(5));
+        return random.nextInt(12) == 0 ? (char) random.nextInt(65536) : (char) ('A' + random.nextInt(3));
     }
 
     private static String answer(Object object, Method face, Object[] values) {

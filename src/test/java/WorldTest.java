@@ -5,6 +5,7 @@ public final class WorldTest {
         loadingBringsAllBack();
         whatIsNotLoaded();
         goingOn();
+        twoWorlds();
         notes();
         sums();
         shares();
@@ -121,6 +122,48 @@ public final class WorldTest {
         Check.due("the other world", x.getLongitude(0), 0);
         Check.due("its scar", x.getWidth(0), 15);
         Check.due("its turns", x.turn(1), 6);
+        Check.yes("sound", x.isSound());
+    }
+
+    /** Nothing of a world may be left behind in another one that has the same numbers. */
+    private static void twoWorlds() {
+        Bandworld x = new Bandworld();
+        x.save();
+        x.addStorm(5, 0, 50);
+        x.addStorm(5, 5, 40);
+        x.strike(5, 0, 10);
+        x.setTurning(5, 70);
+        x.nameStorm(1, 'A');
+        x.turn(3);
+        x.save();
+        x.load(0);
+        x.addStorm(2, 100, 40);
+        x.addStorm(2, 110, 50);
+        x.strike(2, 0, 90);
+        x.setTurning(2, -600);
+        x.setTurning(3, 3000);
+        x.nameStorm(0, 'B');
+        x.turn(5);
+        x.save();
+        String second = Look.at(x);
+        x.load(1);
+        Check.due("the first lives in itself", x.livesIn(1), 0);
+        Check.due("3 turns by 1", x.scarTurns(0), 3);
+        Check.due("at first a strike", x.happening(0), 'k');
+        Check.due("then a merger", x.happening(1), 'm');
+        Check.due("by 0", x.happenedTo(1), 0);
+        Check.due("named by it", x.findName('A'), 0);
+        x.turn(1);
+        Check.due("in its belt", x.getLongitude(0), 28);
+        Check.due("its scar", x.getWidth(0), 14);
+        x.load(2);
+        Check.due("the second as it was", Look.at(x), second);
+        Check.due("it lives in 1", x.livesIn(0), 1);
+        Check.due("by 1", x.happenedTo(1), 1);
+        x.turn(1);
+        Check.due("in its own belt", x.getLongitude(1), 3110);
+        // Its shear is 375: by 19 in each of 6 turns.
+        Check.due("the width of its scar", x.getWidth(0), 204);
         Check.yes("sound", x.isSound());
     }
 
