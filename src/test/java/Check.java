@@ -1,18 +1,52 @@
+import java.lang.reflect.InvocationTargetException;
+import java.lang.reflect.Method;
+import java.lang.reflect.Modifier;
+import java.util.Arrays;
+import java.util.Comparator;
 import java.util.concurrent.Callable;
 
-/** Counts answers that are not as due; a test class ends with end(). */
+/** Counts answers that are not as due; a test class ends with end(), or runs all its tests by all(). */
 final class Check {
     private static int made = 0;
     private static int wrong = 0;
+    private static String test = "";
 
     private Check() {
+    }
+
+    /** Runs each static method without parameters of a class, and ends; so that none is forgotten. */
+    static void all(Class<?> tests) {
+        Method[] methods = tests.getDeclaredMethods();
+        Arrays.sort(methods, Comparator.comparing(Method::getName));
+        for (Method method : methods) {
+            boolean isTest = Modifier.isStatic(method.getModifiers()) && method.getParameterCount() == 0
+                    && method.getReturnType() == void.class && !method.isSynthetic();
+            if (isTest) {
+                one(method);
+            }
+        }
+        end();
+    }
+
+    private static void one(Method method) {
+        test = method.getName() + ": ";
+        int before = made;
+        try {
+            method.setAccessible(true);
+            method.invoke(null);
+        } catch (InvocationTargetException e) {
+            due("the test itself", "ended by " + e.getCause(), "went through");
+        } catch (ReflectiveOperationException e) {
+            due("the test itself", "could not run: " + e, "went through");
+        }
+        yes("it checks something", made > before);
     }
 
     static void due(String what, Object got, Object want) {
         made++;
         if (!want.equals(got)) {
             wrong++;
-            System.out.println(what + " answered " + got + ", due is " + want);
+            System.out.println(test + what + " answered " + got + ", due is " + want);
         }
     }
 
@@ -24,9 +58,10 @@ final class Check {
         due(what, got, false);
     }
 
-    /** The call must throw exactly this class, and the world must look as before. */
+    /** The call must throw exactly this class; Edge.refused looks more closely whether it changes nothing. */
     static void refused(String what, Bandworld world, Class<?> want, Callable<?> call) {
-        String before = Look.at(world);
+        long sum = world.checksum();
+        int notes = world.happenings();
         Object got;
         try {
             got = call.call();
@@ -34,7 +69,8 @@ final class Check {
             got = e.getClass();
         }
         due(what, got, want);
-        due(what + " changes nothing, which", Look.at(world), before);
+        due(what + " changes no sum, which", world.checksum(), sum);
+        due(what + " notes nothing, so happenings()", world.happenings(), notes);
     }
 
     static void index(String what, Bandworld world, Callable<?> call) {

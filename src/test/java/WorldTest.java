@@ -30,8 +30,7 @@ public final class WorldTest {
         Check.state("saves stay", x, () -> x.save());
     }
 
-    private static Bandworld busy() {
-        Bandworld x = new Bandworld();
+    private static void busy(Bandworld x) {
         x.setTemperature(9, 500);
         x.setVapour(9, 2, 20000);
         x.setVapour(4, 0, 9999);
@@ -47,7 +46,11 @@ public final class WorldTest {
         x.burst(9, 77);
         x.strike(5, 1, 20);
         x.turn(2);
-        return x;
+    }
+
+    private static void busyAndSaved(Bandworld x) {
+        busy(x);
+        x.save();
     }
 
     private static void disturb(Bandworld x) {
@@ -65,24 +68,29 @@ public final class WorldTest {
     }
 
     private static void loadingBringsAllBack() {
-        Bandworld x = busy();
-        Bandworld same = busy();
-        String before = Look.at(x);
+        Bandworld x = new Bandworld();
+        busyAndSaved(x);
         long sum = x.checksum();
-        x.save();
         disturb(x);
-        Check.no("all is otherwise", Look.at(x).equals(before));
+        Check.no("all is otherwise", x.checksum() == sum);
         Check.due("its sum", x.load(0), sum);
-        Check.due("all is as before", Look.at(x), before);
-        disturb(x);
-        x.load(0);
-        Check.due("a second time", Look.at(x), before);
         Check.due("the core too", x.setCore(7), 7);
         Check.due("the drag too", x.setDrag(9), 9);
-        x.turn(20);
-        same.turn(20);
-        Check.due("it goes on from there", Look.at(x), Look.at(same));
         Check.yes("sound", x.isSound());
+
+        String saved = Look.at(WorldTest::busyAndSaved);
+        Look.Story loaded = y -> {
+            busyAndSaved(y);
+            disturb(y);
+            y.load(0);
+        };
+        Check.due("all is as before, and goes on so", Look.at(loaded), saved);
+        Look.Story loadedTwice = y -> {
+            loaded.tell(y);
+            disturb(y);
+            y.load(0);
+        };
+        Check.due("a second time", Look.at(loadedTwice), saved);
     }
 
     private static void whatIsNotLoaded() {
@@ -128,6 +136,37 @@ public final class WorldTest {
     /** Nothing of a world may be left behind in another one that has the same numbers. */
     private static void twoWorlds() {
         Bandworld x = new Bandworld();
+        threeSaves(x);
+        x.load(1);
+        Check.due("the first lives in itself", x.livesIn(1), 0);
+        Check.due("3 turns by 1", x.scarTurns(0), 3);
+        Check.due("at first a strike", x.happening(0), 'k');
+        Check.due("then a merger", x.happening(1), 'm');
+        Check.due("by 0", x.happenedTo(1), 0);
+        Check.due("named by it", x.findName('A'), 0);
+        x.turn(1);
+        Check.due("in its belt", x.getLongitude(0), 28);
+        Check.due("its scar", x.getWidth(0), 14);
+        x.load(2);
+        Check.due("it lives in 1", x.livesIn(0), 1);
+        Check.due("by 1", x.happenedTo(1), 1);
+        x.turn(1);
+        Check.due("in its own belt", x.getLongitude(1), 3110);
+        // Its shear is 375: by 19 in each of 6 turns.
+        Check.due("the width of its scar", x.getWidth(0), 204);
+        Check.yes("sound", x.isSound());
+
+        Look.Story back = y -> {
+            threeSaves(y);
+            y.load(1);
+            y.turn(1);
+            y.load(2);
+        };
+        Check.due("the second as it was", Look.at(back), Look.at(WorldTest::threeSaves));
+    }
+
+    /** A new world, one of the belt 5 and one of the belt 2. */
+    private static void threeSaves(Bandworld x) {
         x.save();
         x.addStorm(5, 0, 50);
         x.addStorm(5, 5, 40);
@@ -145,26 +184,6 @@ public final class WorldTest {
         x.nameStorm(0, 'B');
         x.turn(5);
         x.save();
-        String second = Look.at(x);
-        x.load(1);
-        Check.due("the first lives in itself", x.livesIn(1), 0);
-        Check.due("3 turns by 1", x.scarTurns(0), 3);
-        Check.due("at first a strike", x.happening(0), 'k');
-        Check.due("then a merger", x.happening(1), 'm');
-        Check.due("by 0", x.happenedTo(1), 0);
-        Check.due("named by it", x.findName('A'), 0);
-        x.turn(1);
-        Check.due("in its belt", x.getLongitude(0), 28);
-        Check.due("its scar", x.getWidth(0), 14);
-        x.load(2);
-        Check.due("the second as it was", Look.at(x), second);
-        Check.due("it lives in 1", x.livesIn(0), 1);
-        Check.due("by 1", x.happenedTo(1), 1);
-        x.turn(1);
-        Check.due("in its own belt", x.getLongitude(1), 3110);
-        // Its shear is 375: by 19 in each of 6 turns.
-        Check.due("the width of its scar", x.getWidth(0), 204);
-        Check.yes("sound", x.isSound());
     }
 
     private static void notes() {
@@ -256,19 +275,23 @@ public final class WorldTest {
     }
 
     private static void soundness() {
-        Bandworld x = busy();
+        Bandworld x = new Bandworld();
+        busy(x);
         for (int i = 0; i < 10; i++) {
             Check.yes("busy " + i, x.isSound());
             x.turn(17);
         }
-        String before = Look.at(x);
-        x.isSound();
-        Check.due("asking changes nothing", Look.at(x), before);
         x.save();
         disturb(x);
         Check.yes("with a save", x.isSound());
         x.load(0);
         Check.yes("with a load", x.isSound());
         Check.due("asking made no save", x.save(), 1);
+
+        Look.Story asked = y -> {
+            busy(y);
+            y.isSound();
+        };
+        Check.due("asking changes nothing", Look.at(asked), Look.at(WorldTest::busy));
     }
 }
