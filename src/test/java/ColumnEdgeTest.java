@@ -542,5 +542,6 @@ public final class ColumnEdgeTest {
         Check.yes("heat rose", ice.getTemperature(8) > 50);
         Check.due("no ice did", ice.getIce(9, 0), 100);
         Check.due("no vapour rises without heat", warmed(25, 900, 0).getVapour(8, 0), 0);
+        Check.due("nor below a heavier level", warmed(25, 900, 5000).getVapour(8, 0), 5000);
     }
 }

@@ -107,6 +107,20 @@ public final class PlumeAndScarEdgeTest {
         }
     }
 
+    /** Terms: "and a storm of 60 is there", of the age 0, in the belt at the longitude, and without a name. */
+    private static void burstMakesAStormOf60() {
+        Bandworld x = new Bandworld();
+        warm(x);
+        x.setTurning(11, 2);
+        x.burst(11, 3599);
+        Check.due("its size", x.getSize(0), 60);
+        Check.due("its age", x.getAge(0), 0);
+        Check.due("itself", x.livesIn(0), 0);
+        Check.due("its name", x.nameStorm(0, 'A'), '-');
+        x.turn(1);
+        Check.due("it goes on with the belt", x.getLongitude(0), 0);
+    }
+
     /** Terms: "half of each vapour": ice stays, and no level between gets anything. */
     private static void burstLeavesIceAndOtherLevels() {
         Bandworld x = new Bandworld();

@@ -258,6 +258,12 @@ public final class StormEdgeTest {
         Check.due("the turn in which it went", x.getAge(0), 201);
         x.turn(1);
         Check.due("no more", x.getAge(0), 201);
+        Bandworld y = new Bandworld();
+        merged(y);
+        Check.due("the turn of the merger too", y.getAge(0), 1);
+        y.turn(1);
+        Check.due("no more behind it", y.getAge(0), 1);
+        Check.due("that which lives on", y.getAge(1), 2);
     }
 
     /** Promise 24: "Returns whether a storm is there": torn, merged or neither. */
@@ -299,7 +305,13 @@ public final class StormEdgeTest {
 
     /** Promise 25: "Throws NoSuchElementException if there is none": torn, or gone into one that was torn then. */
     private static void livesInNone() {
-        Edge.refused("torn", Edge.NONE, StormEdgeTest::tornAndThere, y -> y.livesIn(0));
+        Edge.refused("torn, the first one", Edge.NONE, StormEdgeTest::tornAndThere, y -> y.livesIn(0));
+        Edge.refused("torn, the last one", Edge.NONE, y -> {
+            y.addStorm(8, 0, 20);
+            y.addStorm(0, 0, 10);
+            y.setTurning(0, 3000);
+            y.turn(1);
+        }, y -> y.livesIn(1));
         Look.Story mergedThenTorn = y -> {
             merged(y);
             y.setTurning(4, 3000);

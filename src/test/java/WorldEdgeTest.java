@@ -123,6 +123,61 @@ public final class WorldEdgeTest {
         Check.due("its own belt, not that of another storm", y.getLongitude(0), 20);
     }
 
+    /** Two storms of which 0 lives on with a name of 1, a strike before and a torn one: all in the north. */
+    private static void northern(Bandworld x) {
+        x.setDrag(3);
+        x.setTurning(2, 600);
+        x.strike(1, 0, 90);
+        x.addStorm(2, 100, 90);
+        x.addStorm(2, 110, 50);
+        x.nameStorm(1, 'B');
+        x.addStorm(1, 0, 10);
+        x.turn(9);
+    }
+
+    /** As many things of each kind, but all otherwise. */
+    private static void southern(Bandworld x) {
+        x.setCore(9);
+        x.setTemperature(9, 700);
+        x.setVapour(9, 1, 20000);
+        x.burst(8, 3000);
+        x.addStorm(8, 3010, 70);
+        x.addStorm(9, 3010, 71);
+        x.nameStorm(0, 'C');
+        x.nameStorm(2, 'B');
+        x.setTurning(8, -90);
+        x.strike(8, 0, 2);
+        x.turn(4);
+    }
+
+    /** Terms: "a world that is loaded goes on from there": nothing is left in it of the one that was before. */
+    private static void loadLeavesNothingOfAnotherWorld() {
+        Look.Story straight = y -> {
+            y.save();
+            northern(y);
+            y.save();
+        };
+        Look.Story aside = y -> {
+            straight.tell(y);
+            y.load(0);
+            southern(y);
+            y.load(1);
+        };
+        Check.due("the north behind the south", Look.at(aside), Look.at(straight));
+        Look.Story straightSouth = y -> {
+            y.save();
+            southern(y);
+            y.save();
+        };
+        Look.Story asideNorth = y -> {
+            straightSouth.tell(y);
+            y.load(0);
+            northern(y);
+            y.load(1);
+        };
+        Check.due("the south behind the north", Look.at(asideNorth), Look.at(straightSouth));
+    }
+
     /** Terms: "all that is in them but frames, probes and saves": those are as before, be they as many as can be. */
     private static void loadLeavesFramesProbesAndSaves() {
         Bandworld x = new Bandworld();
@@ -275,6 +330,32 @@ public final class WorldEdgeTest {
         Check.due("the sum", x.checksum(), 31 * sum + 1);
     }
 
+    /** Promise 45: "plus its vapours and ice together": of the level 9 and of the level 0. */
+    private static void checksumOfVapoursAndIceTogether() {
+        Bandworld x = new Bandworld();
+        long power = 1;
+        for (int i = 0; i < 13; i++) {
+            power *= 31;
+        }
+        long before = x.checksum();
+        x.setVapour(9, 0, 5);
+        x.setVapour(9, 1, 20);
+        x.setVapour(9, 2, 20000);
+        Check.due("vapours of the level 9", x.checksum(), before + 20025 * power);
+        x.setCore(0);
+        x.setTemperature(0, 99);
+        before = x.checksum();
+        x.turn(1);
+        Check.yes("some froze", x.getIce(9, 2) > 0);
+        Check.due("then with ice, and a turn", x.checksum(), before + 1);
+        for (int i = 0; i < 18; i++) {
+            power *= 31;
+        }
+        before = x.checksum();
+        x.setVapour(0, 2, 7);
+        Check.due("vapour of the level 0", x.checksum(), before + 7 * power);
+    }
+
     /** Promise 45: what is less than nothing counts as that: turnings below 0. */
     private static void checksumOfTurningsBelowNothing() {
         Bandworld x = new Bandworld();
@@ -382,6 +463,7 @@ public final class WorldEdgeTest {
         Bandworld x = new Bandworld();
         x.addStorm(0, 0, 10);
         x.addStorm(8, 0, 400);
+        Check.yes("one of 10, one of 400", x.isSound());
         x.nameStorm(0, 'A');
         x.nameStorm(1, 'B');
         x.setTurning(0, 3000);
@@ -411,6 +493,28 @@ public final class WorldEdgeTest {
         Check.yes("full", full.isSound());
         full.load(2);
         Check.yes("full and loaded", full.isSound());
+    }
+
+    /** Promise 48: "those told": what was told behind a save is none of it when that is loaded. */
+    private static void soundWithWhatWasToldBehindASave() {
+        Bandworld x = new Bandworld();
+        x.save();
+        x.setTemperature(5, 999);
+        Check.yes("degrees", loadedIsSound(x));
+        x.setVapour(5, 2, 20000);
+        Check.yes("vapour", loadedIsSound(x));
+        x.setTurning(5, 3000);
+        Check.yes("turning", loadedIsSound(x));
+        x.setTemperature(0, 999);
+        x.setDrag(1);
+        x.setTurning(5, 3000);
+        x.turn(1);
+        Check.yes("lost degrees, the core and the deep", loadedIsSound(x));
+    }
+
+    private static boolean loadedIsSound(Bandworld x) {
+        x.load(0);
+        return x.isSound();
     }
 
     /** Promise 48: "Returns whether [..]": asking changes nothing, not even how many can be saved. */
