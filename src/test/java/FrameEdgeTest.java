@@ -257,6 +257,25 @@ public final class FrameEdgeTest {
         Check.due("1 and 2", x.drift('A', 1, 2), 10.0f);
     }
 
+    /** Terms: "from the earlier frame to the later one": by their turns, where a world was loaded between them. */
+    private static void driftIsFromTheEarlierFrameThoughTakenLater() {
+        Bandworld x = new Bandworld();
+        x.setTurning(5, 100);
+        x.addStorm(5, 3595, 50);
+        x.nameStorm(0, 'A');
+        x.save();
+        x.turn(2);
+        x.frame(0);
+        x.load(0);
+        x.frame(0);
+        Check.due("20 in 2 turns", x.drift('A', 0, 1), 10.0f);
+        Check.due("told backwards", x.drift('A', 1, 0), 10.0f);
+        x.turn(2);
+        x.frame(0);
+        String sameTurn = Look.answer(x, y -> y.drift('A', 0, 2));
+        Check.due("no turn is between two of one turn", sameTurn, "NoSuchElementException");
+    }
+
     /** The drift of a storm that goes on by some in each of two turns. */
     private static float driftBy(int start, int first, int second) {
         Bandworld x = new Bandworld();

@@ -190,6 +190,7 @@ public final class ProbeEdgeTest {
             for (int tick = 1; tick <= 19; tick++) {
                 x.tick(0);
                 Check.due("behind tick " + tick, x.sent(0), tick);
+                Check.due("the record of tick " + tick, x.sentAt(0, tick - 1, 'l'), (tick - 1) / 2);
             }
             Check.due("none is lost", x.lost(0), 0);
         }

@@ -57,9 +57,13 @@ public final class WildCallsTest {
             Object[] values = new Object[method.getParameterCount()];
             for (int i = 0; i < values.length; i++) {
                 Class<?> type = method.getParameterTypes()[i];
-                values[i] = type == int.class
-                        ? (Object) number(random, method.getName(), i, isRestless, isCrowded, isWild)
-                        : type == char.class ? (Object) letter(random, method.getName()) : (Object) random.nextBoolean();
+                if (type == int.class) {
+                    values[i] = number(random, method.getName(), i, isRestless, isCrowded, isWild);
+                } else if (type == char.class) {
+                    values[i] = letter(random, method.getName());
+                } else {
+                    values[i] = random.nextBoolean();
+                }
             }
             String what = "run " + run + ", call " + call + ": " + method.getName() + List.of(values);
             String due = answer(giant, method, values);

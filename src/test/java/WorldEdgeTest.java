@@ -126,7 +126,7 @@ public final class WorldEdgeTest {
     /** Two storms of which 0 lives on with a name of 1, a strike before and a torn one: all in the north. */
     private static void northern(Bandworld x) {
         x.setDrag(3);
-        x.setTurning(2, 600);
+        x.setTurning(2, 1800);
         x.strike(1, 0, 90);
         x.addStorm(2, 100, 90);
         x.addStorm(2, 110, 50);
